@@ -542,7 +542,7 @@ public final class ChanceBench {
     /** Where v stands, or would have to stand, among the first numbers of a rising row. */
     private static int placeIn(int[] row, int size, int v) {
         int low = 0;
-        int high = Math.min(size, row.length);
+        int high = size < row.length ? size : row.length;
         while (low < high) {
             int middle = (low + high) >>> 1;
             if (row[middle] < v) {
@@ -995,24 +995,20 @@ public final class ChanceBench {
             for (int k = 0; k < length; k++) {
                 rest[k] = law.weight[k];
             }
-            splitOff(1);
+            splitOff(1, 1);
         }
 
         void grow() {
-            for (int k = 0; k < length; k++) {
-                rest[k] = 2 * rest[k];
-            }
-            splitOff(2 * openPlaces);
+            splitOff(2 * openPlaces, 2);
         }
 
-        private void splitOff(int places) {
+        private void splitOff(int places, int factor) {
             leaves = 0;
             for (int k = 0; k < length; k++) {
-                digit[k] = rest[k] >= whole ? 1 : 0;
-                if (digit[k] == 1) {
-                    rest[k] -= whole;
-                    leaves++;
-                }
+                int here = factor * rest[k];
+                digit[k] = here >= whole ? 1 : 0;
+                rest[k] = here - digit[k] * whole;
+                leaves += digit[k];
             }
             openPlaces = places - leaves;
         }
