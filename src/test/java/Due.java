@@ -3,10 +3,19 @@ import java.util.function.LongSupplier;
 
 /** What the tests of this project share: checks that print what is not as due, and short ways to common states. */
 final class Due {
+    static final int LOW = Integer.MIN_VALUE;
+    static final int HIGH = Integer.MAX_VALUE;
+
+    private static String sentence = "";
     private static int wrong = 0;
     private static int checked = 0;
 
     private Due() {
+    }
+
+    /** What is not as due from here on is told with this sentence ahead of it. */
+    static void under(String newSentence) {
+        sentence = newSentence;
     }
 
     static void is(String call, long got, long want) {
@@ -22,7 +31,7 @@ final class Due {
         if (!got.equals(want)) {
             wrong++;
             if (wrong <= 50) {
-                System.out.println(call + " answered " + got + ", due is " + want);
+                System.out.println(sentence + call + " answered " + got + ", due is " + want);
             }
         }
     }
@@ -34,6 +43,10 @@ final class Due {
         } catch (RuntimeException e) {
             return "throws." + e.getClass().getSimpleName();
         }
+    }
+
+    static void fractionIs(String call, long upper, long lower, String want) {
+        is(call, upper + "/" + lower, want);
     }
 
     static void thrown(String call, LongSupplier asked) {
@@ -69,6 +82,19 @@ final class Due {
 
     static void lawIs(String label, ChanceBench x, int a, String want) {
         is(label + ", law of " + a, law(x, a), want);
+    }
+
+    /** The text of the law that has these weights by from, from + step, .. (0: no such value). */
+    static String weights(int from, int step, int... weights) {
+        long whole = java.util.stream.IntStream.of(weights).asLongStream().sum();
+        StringBuilder text = new StringBuilder();
+        for (int k = 0; k < weights.length; k++) {
+            if (weights[k] > 0) {
+                NaiveBench.Frac chance = NaiveBench.Frac.of(weights[k], whole);
+                text.append(text.length() == 0 ? "" : " ").append(from + k * step).append(':').append(chance.upper).append('/').append(chance.lower);
+            }
+        }
+        return text.toString();
     }
 
     /** Slot s gets a law by a sheet of these weights. */

@@ -131,7 +131,7 @@ final class NaiveBench {
         }
         for (int number : new int[] {a, b, c, d, e}) {
             for (int k = 3; k >= 0; k--) {
-                tape.add((int) Math.floorMod((long) Math.floorDiv((long) number, 1L << (8 * k)), 256L));
+                tape.add((int) Math.floorMod(Math.floorDiv((long) number, 1L << (8 * k)), 256L));
             }
         }
         return tape.size();

@@ -9,12 +9,15 @@ public final class RandomRunsTest {
         1048575, 1048576, 1048577, Integer.MAX_VALUE - 1, Integer.MAX_VALUE
     };
 
+    private static final int MOST_CALLS = 512;
+
     private final Random chance;
     private final ChanceBench bench = new ChanceBench();
     private final NaiveBench naive = new NaiveBench();
     private final int run;
     private final int slots;
     private final int wild;
+    private int made = 0;
 
     private RandomRunsTest(int run) {
         this.run = run;
@@ -24,7 +27,7 @@ public final class RandomRunsTest {
     }
 
     public static void main(String[] args) {
-        int runs = args.length > 0 ? Integer.parseInt(args[0]) : 700;
+        int runs = args.length > 0 ? Integer.parseInt(args[0]) : 900;
         for (int run = 0; run < runs; run++) {
             new RandomRunsTest(run).go();
         }
@@ -58,7 +61,12 @@ public final class RandomRunsTest {
         }
     }
 
+    /** What an object answers behind its 512th call is free, so neither is asked then. */
     private void same(String call, LongSupplier ofBench, LongSupplier ofNaive) {
+        if (made >= MOST_CALLS) {
+            return;
+        }
+        made++;
         Due.is("run " + run + ": " + call, Due.told(ofBench), Due.told(ofNaive));
     }
 
