@@ -31,6 +31,7 @@ public final class LanguageTest {
 
     public static void main(String[] args) throws IOException {
         face();
+        faceOfDocument(Files.readString(Path.of("../shared/DOC.md")));
         inside();
         source(Files.readString(Path.of("src/main/java/ChanceBench.java")));
         Due.end("LanguageTest");
@@ -64,6 +65,18 @@ public final class LanguageTest {
         Due.is("the class is final", Modifier.isFinal(ChanceBench.class.getModifiers()), true);
     }
 
+    /** The heads of methods that the document writes out, in the form of FACE. */
+    private static void faceOfDocument(String document) {
+        Set<String> methods = new TreeSet<>();
+        Matcher m = Pattern.compile("(?m)^    public (int|long|boolean) (\\w+)\\(([^)]*)\\)( throws)?[^;]*;$").matcher(document);
+        while (m.find()) {
+            String kinds = m.group(3).replaceAll("(int|boolean) \\w+", "$1");
+            methods.add(m.group(1) + " " + m.group(2) + "(" + kinds + ")" + (m.group(4) == null ? "" : " throws"));
+        }
+        Due.is("the face in the document", methods.toString(), new TreeSet<>(List.of(FACE)).toString());
+        Due.is("its constant", document.contains("    public static final int NONE = " + ChanceBench.NONE + ";\n"), true);
+    }
+
     private static void inside() {
         Set<String> names = new TreeSet<>();
         for (String f : FACE) {
@@ -91,6 +104,28 @@ public final class LanguageTest {
         }
     }
 
+    /** Rule 4: no class but the file's own and those of the library that it may use, and of these no other call. */
+    private static void names(String code) {
+        Set<String> used = new TreeSet<>();
+        Matcher m = Pattern.compile("\\b[A-Z]\\w*[a-z]\\w*\\b").matcher(code);
+        while (m.find()) {
+            used.add(m.group());
+        }
+        used.remove("ChanceBench");
+        for (Class<?> c : ChanceBench.class.getDeclaredClasses()) {
+            used.remove(c.getSimpleName());
+        }
+        Due.is("classes of the library", used.toString(), "[Integer, Math, NoSuchElementException]");
+        used.clear();
+        m = Pattern.compile("\\b(?:Integer|Math)\\.\\w+").matcher(code);
+        while (m.find()) {
+            used.add(m.group());
+        }
+        Due.is("calls of the library", used.toString(), "[Integer.signum, Math.abs, Math.max, Math.min]");
+        m = Pattern.compile("\\.clone\\b|\\.getClass\\b|\\.equals\\b|\\.hashCode\\b|\\.toString\\b|\"").matcher(code);
+        Due.is("calls of what every object has, or a text", m.find(), false);
+    }
+
     private static void source(String text) {
         String code = text.replaceAll("(?s)/\\*.*?\\*/", "").replaceAll("//[^\n]*", "");
         List<String> imports = new ArrayList<>();
@@ -106,6 +141,7 @@ public final class LanguageTest {
         for (String b : barred) {
             Due.is("the source has " + b, Pattern.compile(b).matcher(code).find(), false);
         }
+        names(code);
         m = Pattern.compile("throw [^;]*;").matcher(code);
         while (m.find()) {
             Due.is("throw", m.group(), "throw new NoSuchElementException();");
