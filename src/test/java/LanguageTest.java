@@ -31,7 +31,10 @@ public final class LanguageTest {
 
     public static void main(String[] args) throws IOException {
         face();
-        faceOfDocument(Files.readString(Path.of("../shared/DOC.md")));
+        Path document = Path.of("../shared/DOC.md");
+        if (Files.exists(document)) {
+            faceOfDocument(Files.readString(document));
+        }
         inside();
         source(Files.readString(Path.of("src/main/java/ChanceBench.java")));
         Due.end("LanguageTest");
